@@ -369,7 +369,6 @@ public final class PatternHouse {
             if (hasPart) {
                 rows[depth].append(part, pattern);
             }
-            hasPart = false;
         }
 
         void endRow() {

@@ -13,6 +13,7 @@ public final class ReadingTest {
         brackets();
         lettersWrongWayRound();
         faultsInTheirOrder();
+        nothingIsLeftOfAFault();
         CHECK.end();
     }
 
@@ -247,6 +248,26 @@ public final class ReadingTest {
         fault(x, "b{9})", 3, 1);
         fault(x, "[b-a]b{9}", 6, 1);
         fault(x, "(b{9}", 3, 2);
+    }
+
+    private static void nothingIsLeftOfAFault() {
+        PatternHouse x = new PatternHouse();
+        fault(x, "a)", 1, 1);
+        fault(x, "*", 1, 0);
+        fault(x, "(((", 2, 3);
+        fault(x, ")", 1, 0);
+        fault(x, "a{2", 2, 3);
+        fault(x, "}", 1, 0);
+        fault(x, "[^b", 2, 3);
+        fault(x, "]", 1, 0);
+        fault(x, "[^b", 2, 3);
+        CHECK.pattern(x, "[a]");
+        CHECK.due("its letters", x.has(0, 0) && !x.has(0, 1) && !x.has(0, 2), true);
+        fault(x, "a*|(b", 2, 5);
+        CHECK.pattern(x, "c");
+        CHECK.due("its positions", x.positions(), 1);
+        CHECK.due("it has no word without letters", x.empty(), false);
+        CHECK.due("nothing behind c", x.follows(0, 0), false);
     }
 
     private static void fault(PatternHouse x, String pattern, int fault, int place) {

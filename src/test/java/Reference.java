@@ -8,7 +8,7 @@ import java.util.Map;
 
 /**
  * The document said once more in another way, to compare with: a tree of parts read by recursion, laid out by
- * copying its text of positions, matched by the places at which words end, and automata told apart by all pairs.
+ * copying its branches, matched by the places at which words end, and automata told apart by all pairs.
  */
 final class Reference {
     static final class Fault extends RuntimeException {
@@ -274,7 +274,8 @@ final class Reference {
     static BitSet match(Node node, String text, BitSet from) {
         BitSet to = new BitSet();
         switch (node.kind) {
-            case SET -> from.stream().filter(i -> i < text.length() && node.letters.get(LETTERS.indexOf(text.charAt(i))))
+            case SET -> from.stream().filter(i -> i < text.length())
+                    .filter(i -> node.letters.get(LETTERS.indexOf(text.charAt(i))))
                     .forEach(i -> to.set(i + 1));
             case ROW -> {
                 to.or(from);
