@@ -25,7 +25,7 @@ public final class AutomatonTest {
         automaton("(a|b)*abb", 6, 5, "-0 g5");
         automaton("(ab|ac)", 5, 4, "-0 g3 g4");
         automaton("9|a", 4, 3, "-0 g1 g3");
-        PatternHouse x = CHECK.pattern("9|a");
+        House x = CHECK.pattern("9|a");
         CHECK.due("a", x.next(0, 0), 1);
         CHECK.due("b to the set without positions, met before 9", x.next(0, 1), 2);
         CHECK.due("9", x.next(0, 35), 3);
@@ -44,7 +44,7 @@ public final class AutomatonTest {
 
     /** The good states, or the beginning with - if it is not good. */
     private static void automaton(String pattern, int states, int classes, String goods) {
-        PatternHouse x = CHECK.pattern(pattern);
+        House x = CHECK.pattern(pattern);
         CHECK.due("classes of " + pattern, x.classes(), classes);
         CHECK.due("states of " + pattern, x.states(), states);
         StringBuilder all = new StringBuilder(x.good(0) ? "g0 " : "-0 ");
@@ -56,7 +56,7 @@ public final class AutomatonTest {
     }
 
     private static void exponential() {
-        PatternHouse x = CHECK.pattern("(a|b)*a(a|b){5}");
+        House x = CHECK.pattern("(a|b)*a(a|b){5}");
         CHECK.due("states", x.states(), 66);
         CHECK.due("classes", x.classes(), 65);
         CHECK.pattern(x, "(a|b)*a(a|b){2}");
@@ -66,30 +66,33 @@ public final class AutomatonTest {
 
     private static void atTheLimit() {
         // .*a.{7}: the beginning, and a set for each of 2^8 rows of eight letters that are a or not
-        PatternHouse x = CHECK.pattern(".*a.{5}..");
+        House x = CHECK.pattern(".*a.{5}..");
         CHECK.due("states", x.states(), 257);
         CHECK.due("classes", x.classes(), 256);
-        for (int s = 0; s < 257; s++) {
-            for (int letter = 0; letter < 36; letter += 35) {
-                CHECK.due("a way within", x.next(s, letter) > 0 && x.next(s, letter) < 257, true);
-            }
-        }
+        waysStayWithin(".*a.{5}..", 257);
         // the beginning, the first a, 15 * 19 more for a, the set without positions, and 12 for b
         CHECK.pattern(x, "a(a{5}{3})*|a(a{5}{3}a{4})*|b{4}{3}");
         CHECK.due("just 300 states", x.states(), 300);
         CHECK.due("their classes: the first a is as the last of 285", x.classes(), 299);
-        for (int s = 0; s < 300; s++) {
-            for (int letter = 0; letter < 36; letter++) {
-                CHECK.due("a way within", x.next(s, letter) > 0 && x.next(s, letter) < 300, true);
-            }
-        }
+        waysStayWithin("a(a{5}{3})*|a(a{5}{3}a{4})*|b{4}{3}", 300);
         CHECK.pattern(x, "a(a{5}{3})*|a(a{5}{3}a{4})*|b{4}{3}b");
         CHECK.due("one more", x.states(), 300);
         CHECK.due("no classes", x.classes(), PatternHouse.NONE);
     }
 
+    private static void waysStayWithin(String pattern, int states) {
+        Relay relay = new Relay(pattern);
+        for (int s = 0; s < states; s++) {
+            for (int letter = 0; letter < 36; letter++) {
+                int target = relay.now().next(s, letter);
+                CHECK.due("the way from " + s + " by " + letter + " stays within " + pattern,
+                        target > 0 && target < states, true);
+            }
+        }
+    }
+
     private static void beyondTheLimit() {
-        PatternHouse x = CHECK.pattern(".*a.{5}...");
+        House x = CHECK.pattern(".*a.{5}...");
         CHECK.due("states", x.states(), 300);
         CHECK.due("classes", x.classes(), PatternHouse.NONE);
         CHECK.due("next", x.next(299, 0), PatternHouse.NONE);
@@ -97,16 +100,17 @@ public final class AutomatonTest {
         CHECK.due("next by b", x.next(0, 1), 2);
         CHECK.noIndex("state 300", () -> x.next(300, 0));
         CHECK.noIndex("good of state 300", () -> x.good(300));
+        Relay relay = new Relay(".*a.{5}...");
         int beyond = 0;
         int goods = 0;
         for (int s = 0; s < 300; s++) {
-            beyond += x.next(s, 0) == PatternHouse.NONE ? 1 : 0;
-            beyond += x.next(s, 1) == PatternHouse.NONE ? 1 : 0;
-            goods += x.good(s) ? 1 : 0;
-            CHECK.due("b and c lead to one state", x.next(s, 1), x.next(s, 2));
+            beyond += relay.now().next(s, 0) == PatternHouse.NONE ? 1 : 0;
+            beyond += relay.now().next(s, 1) == PatternHouse.NONE ? 1 : 0;
+            goods += relay.now().good(s) ? 1 : 0;
+            CHECK.due("b and c lead to one state", relay.now().next(s, 1), relay.now().next(s, 2));
         }
         CHECK.due("some ways lead beyond", beyond > 0, true);
-        CHECK.due("some states are good", goods, goodsOfFirst(x));
+        CHECK.due("some states are good", goods, goodsOfFirst(relay));
         CHECK.pattern(x, "a");
         CHECK.due("states of the next pattern", x.states(), 3);
         CHECK.due("its classes", x.classes(), 3);
@@ -114,13 +118,13 @@ public final class AutomatonTest {
     }
 
     /** A state is good if the ninth letter from the end of a word that leads to it is an a. */
-    private static int goodsOfFirst(PatternHouse x) {
-        String[] words = new String[x.states()];
+    private static int goodsOfFirst(Relay relay) {
+        String[] words = new String[300];
         words[0] = "";
         int goods = 0;
         for (int s = 0; s < words.length; s++) {
             for (int letter = 0; letter < 2; letter++) {
-                int target = x.next(s, letter);
+                int target = relay.now().next(s, letter);
                 if (target != PatternHouse.NONE && words[target] == null) {
                     words[target] = words[s] + (char) ('a' + letter);
                 }
@@ -132,7 +136,7 @@ public final class AutomatonTest {
     }
 
     private static void wrongInputs() {
-        PatternHouse x = CHECK.pattern("ab");
+        House x = CHECK.pattern("ab");
         CHECK.due("states", x.states(), 4);
         for (int s : new int[] {-1, 4, 300, Integer.MIN_VALUE, Integer.MAX_VALUE}) {
             CHECK.noIndex("next from " + s, () -> x.next(s, 0));

@@ -4,6 +4,8 @@ final class Check {
         Object answer();
     }
 
+    private final Document document = new Document();
+    private String sentence = "";
     private int made;
     private int wrong;
 
@@ -11,8 +13,23 @@ final class Check {
         made++;
         if (!got.equals(due)) {
             wrong++;
-            System.out.println(what + " answered " + got + ", due is " + due);
+            System.out.println(sentence + what + " answered " + got + ", due is " + due);
         }
+    }
+
+    /** What is checked from here on is what the document says in that section by these words. */
+    void says(String section, String words) {
+        sentence = "";
+        if (document.isThere()) {
+            due("whether " + section + " says: " + words, document.says(section, words), true);
+        }
+        sentence = section + " says: " + words + "\n    ";
+    }
+
+    /** Every sentence of the Terms and the promises has been quoted. */
+    void saysNothingElse() {
+        sentence = "";
+        due("what no test quotes of the document", document.unquoted().toString(), "[]");
     }
 
     void fails(String what, Class<? extends RuntimeException> due, Call call) {
@@ -23,6 +40,17 @@ final class Check {
             got = e.getClass();
         }
         due(what, got, due);
+    }
+
+    /** Whatever the answer is, there is one. */
+    void answers(String what, Call call) {
+        Object got = "an answer";
+        try {
+            call.answer();
+        } catch (RuntimeException e) {
+            got = e.getClass();
+        }
+        due(what, got, "an answer");
     }
 
     void noState(String what, Call call) {
@@ -38,16 +66,37 @@ final class Check {
     }
 
     /** Types and reads a pattern that has no fault. */
-    PatternHouse pattern(PatternHouse house, String pattern) {
+    House pattern(House house, String pattern) {
         due("fault of " + pattern, readAll(house, pattern), 0);
         return house;
     }
 
-    PatternHouse pattern(String pattern) {
-        return pattern(new PatternHouse(), pattern);
+    House pattern(String pattern) {
+        return pattern(new House(), pattern);
     }
 
-    void text(PatternHouse house, String text) {
+    /** A new object refuses a pattern. */
+    void fault(String pattern, int fault, int place) {
+        House house = new House();
+        due("fault of " + pattern, readAll(house, pattern), fault);
+        due("place of the fault in " + pattern, house.place(), place);
+    }
+
+    /** Whether a text is a word of a pattern. */
+    void word(String pattern, String text, boolean due) {
+        House house = pattern(pattern);
+        text(house, text);
+        due("whether " + text + " is a word of " + pattern, house.whole(), due);
+    }
+
+    /** All finds of a pattern in a text. */
+    void found(String pattern, String text, String due) {
+        House house = pattern(pattern);
+        text(house, text);
+        due("finds of " + pattern + " in " + text, finds(house), due);
+    }
+
+    void text(House house, String text) {
         house.clear();
         for (int i = 0; i < text.length(); i += 8) {
             String some = text.substring(i, Math.min(text.length(), i + 8));
@@ -55,12 +104,12 @@ final class Check {
         }
     }
 
-    static int readAll(PatternHouse house, String pattern) {
+    static int readAll(House house, String pattern) {
         typeAll(house, pattern);
         return house.read();
     }
 
-    static void typeAll(PatternHouse house, String pattern) {
+    static void typeAll(House house, String pattern) {
         for (int i = 0; i < pattern.length(); i += 8) {
             String some = pattern.substring(i, Math.min(pattern.length(), i + 8));
             house.type(pack(some), some.length());
@@ -76,18 +125,19 @@ final class Check {
     }
 
     /** The word that the latest differ() found, as characters. */
-    static String word(PatternHouse house, int length) {
+    static String word(House house, int length) {
         StringBuilder word = new StringBuilder();
         for (int i = 0; i < length; i++) {
-            word.append("abcdefghijklmnopqrstuvwxyz0123456789".charAt(house.letter(i)));
+            word.append(Told.LETTERS.charAt(house.letter(i)));
         }
         return word.toString();
     }
 
     /** Every find as its beginning and end. */
-    static String finds(PatternHouse house) {
+    static String finds(House house) {
         StringBuilder all = new StringBuilder();
-        for (int i = 0; i < house.finds(); i++) {
+        int count = house.finds();
+        for (int i = 0; i < count; i++) {
             all.append(house.find(i, false)).append('-').append(house.find(i, true)).append(' ');
         }
         return all.toString().trim();

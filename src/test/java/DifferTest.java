@@ -13,7 +13,7 @@ public final class DifferTest {
     }
 
     private static void keeping() {
-        PatternHouse x = CHECK.pattern("ab");
+        House x = CHECK.pattern("ab");
         CHECK.noState("none kept", () -> x.differ());
         x.keep();
         CHECK.due("with itself", x.differ(), PatternHouse.NONE);
@@ -34,7 +34,7 @@ public final class DifferTest {
         CHECK.pattern(x, "a(c)");
         CHECK.due("what is kept is still ac", x.differ(), PatternHouse.NONE);
         CHECK.due("keep changes no pattern", x.positions(), 2);
-        PatternHouse y = CHECK.pattern(".*a.{5}..");
+        House y = CHECK.pattern(".*a.{5}..");
         y.keep();
         CHECK.pattern(y, "a");
         CHECK.due("states of the pattern, not of the kept one", y.states(), 3);
@@ -61,7 +61,7 @@ public final class DifferTest {
     }
 
     private static void same(String kept, String pattern) {
-        PatternHouse x = both(kept, pattern);
+        House x = both(kept, pattern);
         CHECK.due(kept + " and " + pattern, x.differ(), PatternHouse.NONE);
         CHECK.noIndex("no word", () -> x.letter(0));
     }
@@ -92,13 +92,13 @@ public final class DifferTest {
         differs(both(pattern, kept), word);
     }
 
-    private static PatternHouse both(String kept, String pattern) {
-        PatternHouse x = CHECK.pattern(kept);
+    private static House both(String kept, String pattern) {
+        House x = CHECK.pattern(kept);
         x.keep();
         return CHECK.pattern(x, pattern);
     }
 
-    private static void differs(PatternHouse x, String word) {
+    private static void differs(House x, String word) {
         int length = x.differ();
         CHECK.due("length", length, word.length());
         CHECK.due("word", Check.word(x, Math.max(0, length)), word);
@@ -116,7 +116,7 @@ public final class DifferTest {
     }
 
     private static void beyond() {
-        PatternHouse x = CHECK.pattern(".*a.{5}...");
+        House x = CHECK.pattern(".*a.{5}...");
         x.keep();
         CHECK.due("with itself", x.differ(), -2);
         CHECK.pattern(x, "a");
@@ -134,7 +134,7 @@ public final class DifferTest {
     }
 
     private static void letters() {
-        PatternHouse x = both("abc", "abd");
+        House x = both("abc", "abd");
         differs(x, "abc");
         CHECK.pattern(x, "q");
         CHECK.due("the word stays when a pattern is read", Check.word(x, 3), "abc");

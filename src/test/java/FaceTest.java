@@ -34,38 +34,65 @@ public final class FaceTest {
         "int letter(int) " + X,
     };
 
+    private static final Check CHECK = new Check();
+
     public static void main(String[] args) throws Exception {
-        Check check = new Check();
         Class<?> face = PatternHouse.class;
-        check.due("modifiers", Modifier.toString(face.getModifiers()), "public final");
-        check.due("NONE", PatternHouse.NONE, -1);
-        check.due("methods", visibleMethods(face), new TreeSet<>(Arrays.asList(METHODS)));
+        CHECK.due("modifiers", Modifier.toString(face.getModifiers()), "public final");
+        CHECK.due("methods", visibleMethods(face), new TreeSet<>(Arrays.asList(METHODS)));
+        CHECK.due("NONE", PatternHouse.NONE, -1);
+        CHECK.due("NONE is", Modifier.toString(face.getDeclaredField("NONE").getModifiers()), "public static final");
+        noOtherMemberIsSeen(face);
+        noPrivateMethodHasAPublicName(face);
+        classesInside(face);
+        CHECK.end();
+    }
+
+    private static void noOtherMemberIsSeen(Class<?> face) {
         for (Method method : face.getDeclaredMethods()) {
-            boolean isPublic = Modifier.isPublic(method.getModifiers());
-            check.due(method + " is public or private", isPublic || Modifier.isPrivate(method.getModifiers()), true);
+            int modifiers = method.getModifiers();
+            boolean isFace = Modifier.isPublic(modifiers) && !Modifier.isStatic(modifiers);
+            CHECK.due(method + " is of the face or private",
+                    isFace || Modifier.isPrivate(modifiers) || method.isSynthetic(), true);
         }
         for (Field field : face.getDeclaredFields()) {
+            int modifiers = field.getModifiers();
             boolean isNone = field.getName().equals("NONE");
-            check.due(field + " is private", Modifier.isPrivate(field.getModifiers()), !isNone);
-            check.due(field + " is final, if static",
-                    !Modifier.isStatic(field.getModifiers()) || Modifier.isFinal(field.getModifiers()), true);
+            CHECK.due(field + " is NONE or private",
+                    isNone || Modifier.isPrivate(modifiers) || field.isSynthetic(), true);
+            CHECK.due(field + " is final, if static", !Modifier.isStatic(modifiers) || Modifier.isFinal(modifiers), true);
         }
-        check.due("NONE is", Modifier.toString(face.getDeclaredField("NONE").getModifiers()), "public static final");
-        Constructor<?>[] constructors = face.getDeclaredConstructors();
-        check.due("constructors", constructors.length, 1);
-        check.due("constructor", constructors[0].toString(), "public PatternHouse()");
+        for (Constructor<?> constructor : face.getDeclaredConstructors()) {
+            boolean isFace = constructor.toString().equals("public PatternHouse()");
+            CHECK.due(constructor + " is of the face or private",
+                    isFace || Modifier.isPrivate(constructor.getModifiers()), true);
+        }
+        CHECK.due("public constructors", face.getConstructors().length, 1);
+    }
+
+    private static void noPrivateMethodHasAPublicName(Class<?> face) {
+        TreeSet<String> seen = new TreeSet<>();
+        for (Method method : face.getMethods()) {
+            seen.add(method.getName());
+        }
+        for (Method method : face.getDeclaredMethods()) {
+            boolean isHidden = Modifier.isPrivate(method.getModifiers()) && !method.isSynthetic();
+            CHECK.due(method + " has a public name", isHidden && seen.contains(method.getName()), false);
+        }
+    }
+
+    private static void classesInside(Class<?> face) {
         for (Class<?> inside : face.getDeclaredClasses()) {
             int modifiers = inside.getModifiers();
-            check.due(inside + " is private", Modifier.isPrivate(modifiers), true);
-            check.due(inside + " is static", Modifier.isStatic(modifiers), true);
+            CHECK.due(inside + " is seen outside", Modifier.isPublic(modifiers) || Modifier.isProtected(modifiers), false);
+            CHECK.due(inside + " is static", Modifier.isStatic(modifiers), true);
         }
-        check.end();
     }
 
     private static TreeSet<String> visibleMethods(Class<?> face) {
         TreeSet<String> all = new TreeSet<>();
         for (Method method : face.getDeclaredMethods()) {
-            if (!Modifier.isPrivate(method.getModifiers())) {
+            if (!Modifier.isPrivate(method.getModifiers()) && !method.isSynthetic()) {
                 all.add(method.getReturnType().getSimpleName() + " " + method.getName()
                         + "(" + names(method.getParameterTypes()) + ") " + names(method.getExceptionTypes()));
             }

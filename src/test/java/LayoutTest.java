@@ -53,10 +53,12 @@ public final class LayoutTest {
         laidOut("(a{2}b){2}", false, "0", "5", "0:1 1:2 2:3 3:4 4:5 5:");
         laidOut("((a|b){2})*", true, "0 1", "2 3", "0:2,3 1:2,3 2:0,1 3:0,1");
         laidOut("(){5}a{0,2}", true, "0 1", "0 1", "0:1 1:");
-        PatternHouse x = CHECK.pattern("x([0-3]y){0,2}z");
-        CHECK.due("letters of the copies", hasAll(x, 1, "0123") && hasAll(x, 2, "y") && hasAll(x, 3, "0123")
-                && hasAll(x, 4, "y") && hasAll(x, 5, "z"), true);
-        PatternHouse sixty = CHECK.pattern("(.*){5}{4}{3}");
+        House x = CHECK.pattern("x([0-3]y){0,2}z");
+        String[] due = {"x", "0123", "y", "0123", "y", "z"};
+        for (int p = 0; p < due.length; p++) {
+            CHECK.due("letters of position " + p, Told.letters(x, p), due[p]);
+        }
+        House sixty = CHECK.pattern("(.*){5}{4}{3}");
         CHECK.due("positions", sixty.positions(), 60);
         CHECK.due("the highest position", sixty.is(59, 0) && sixty.is(59, 1) && sixty.follows(59, 59), true);
         CHECK.due("from the lowest to the highest", sixty.follows(0, 59), true);
@@ -74,27 +76,16 @@ public final class LayoutTest {
     }
 
     private static void letters() {
-        PatternHouse x = CHECK.pattern("a9.[b-d][^b-d][z-0][xa-cx][^a-z0-9]");
-        String all = "abcdefghijklmnopqrstuvwxyz0123456789";
-        String[] due = {"a", "9", all, "bcd", all.replace("bcd", ""), "z0", "abcx", ""};
+        House x = CHECK.pattern("a9.[b-d][^b-d][z-0][xa-cx][^a-z0-9]");
+        String[] due = {"a", "9", Told.LETTERS, "bcd", Told.LETTERS.replace("bcd", ""), "z0", "abcx", ""};
         CHECK.due("positions", x.positions(), due.length);
         for (int p = 0; p < due.length; p++) {
-            CHECK.due("letters of position " + p, hasAll(x, p, due[p]), true);
+            CHECK.due("letters of position " + p, Told.letters(x, p), due[p]);
         }
-    }
-
-    private static boolean hasAll(PatternHouse x, int position, String due) {
-        for (int letter = 0; letter < 36; letter++) {
-            boolean isDue = due.indexOf("abcdefghijklmnopqrstuvwxyz0123456789".charAt(letter)) >= 0;
-            if (x.has(position, letter) != isDue) {
-                return false;
-            }
-        }
-        return true;
     }
 
     private static void wrongInputs() {
-        PatternHouse x = CHECK.pattern("ab*");
+        House x = CHECK.pattern("ab*");
         for (int p : new int[] {-1, 2, 60, 64, Integer.MIN_VALUE, Integer.MAX_VALUE}) {
             CHECK.noIndex("is " + p, () -> x.is(p, 0));
             CHECK.noIndex("is " + p + " with a wrong what", () -> x.is(p, 2));
@@ -115,24 +106,10 @@ public final class LayoutTest {
     }
 
     private static void laidOut(String pattern, boolean empty, String firsts, String lasts, String behind) {
-        PatternHouse x = CHECK.pattern(pattern);
+        House x = CHECK.pattern(pattern);
         CHECK.due("empty of " + pattern, x.empty(), empty);
-        StringBuilder first = new StringBuilder();
-        StringBuilder last = new StringBuilder();
-        StringBuilder follow = new StringBuilder();
-        for (int p = 0; p < x.positions(); p++) {
-            first.append(x.is(p, 0) ? p + " " : "");
-            last.append(x.is(p, 1) ? p + " " : "");
-            follow.append(p).append(':');
-            String comma = "";
-            for (int q = 0; q < x.positions(); q++) {
-                follow.append(x.follows(p, q) ? comma + q : "");
-                comma = x.follows(p, q) ? "," : comma;
-            }
-            follow.append(' ');
-        }
-        CHECK.due("FIRST of " + pattern, first.toString().trim(), firsts);
-        CHECK.due("LAST of " + pattern, last.toString().trim(), lasts);
-        CHECK.due("FOLLOW of " + pattern, follow.toString().trim(), behind);
+        CHECK.due("FIRST of " + pattern, Told.firsts(x), firsts);
+        CHECK.due("LAST of " + pattern, Told.lasts(x), lasts);
+        CHECK.due("FOLLOW of " + pattern, Told.behind(x), behind);
     }
 }

@@ -1,113 +1,164 @@
 import java.util.Random;
 
-/** All promises: patterns and texts by chance (the same ones each time), compared with Reference. */
+/** Promises 3 to 21: patterns and texts by chance (the same ones each time), compared with Reference. */
 public final class RandomTest {
     private static final Check CHECK = new Check();
     private static final Random RANDOM = new Random(20261115);
+    /** What a round asks of the object that goes on from round to round stays below this. */
+    private static final int CALLS_OF_A_ROUND = 170;
+    private static final int SOME = 20;
     private static int faults;
     private static int good;
 
+    private static House house;
+    private static Reference now;
+    private static Reference kept;
+
     public static void main(String[] args) {
-        PatternHouse house = new PatternHouse();
-        Reference kept = null;
-        Reference before = null;
+        beginAnew();
         for (int round = 0; round < 6000; round++) {
+            if (house.callsLeft() < CALLS_OF_A_ROUND) {
+                beginAnew();
+            }
             String pattern = RANDOM.nextInt(3) == 0 ? noise() : spoil(choices(RANDOM.nextInt(5)));
-            pattern = pattern.substring(0, Math.min(200, pattern.length()));
-            if (round % 40 == 0) {
-                house = new PatternHouse();
-                kept = null;
-                before = null;
+            compareReading(pattern.substring(0, Math.min(200, pattern.length())));
+            if (now != null) {
+                compareRest(text());
             }
-            Reference read = compareReading(house, pattern);
-            if (read != null) {
-                before = read;
-                good++;
-            } else {
-                faults++;
-            }
-            if (before == null) {
-                continue;
-            }
-            compareLayout(house, before, pattern);
-            compareText(house, before, pattern);
-            compareAutomaton(house, before, pattern);
-            if (kept == null || RANDOM.nextInt(4) == 0) {
-                kept = before;
-                house.keep();
-            }
-            compareWords(house, before, kept, pattern);
         }
         System.out.println(good + " patterns, " + faults + " faults");
         CHECK.due("there are enough patterns and faults", good > 1000 && faults > 1000, true);
         CHECK.end();
     }
 
-    private static Reference compareReading(PatternHouse house, String pattern) {
-        Reference reference = null;
+    private static void beginAnew() {
+        house = new House();
+        now = null;
+        kept = null;
+    }
+
+    private static void compareReading(String pattern) {
         int fault = 0;
-        int place = -1;
+        int place = PatternHouse.NONE;
+        String before = now == null ? "" : now.pattern;
         try {
-            reference = new Reference(pattern);
+            now = new Reference(pattern);
+            good++;
+            compareAllPositions(new Relay(before, pattern));
+            compareAllStates(new Relay(before, pattern));
         } catch (Reference.Fault e) {
             fault = e.number;
             place = e.place;
+            faults++;
         }
         CHECK.due("fault of " + pattern, Check.readAll(house, pattern), fault);
         CHECK.due("place of the fault in " + pattern, house.place(), place);
-        return reference;
     }
 
-    private static void compareLayout(PatternHouse house, Reference due, String pattern) {
-        int size = due.positions.size();
-        CHECK.due("positions at " + pattern, house.positions(), size);
-        CHECK.due("empty at " + pattern, house.empty(), due.empty);
+    private static void compareRest(String text) {
+        comparePositions();
+        compareText(text);
+        compareStates();
+        if (kept == null || RANDOM.nextInt(4) == 0) {
+            kept = now;
+            house.keep();
+        }
+        compareWords();
+    }
+
+    private static void comparePositions() {
+        int size = now.positions.size();
+        CHECK.due("positions at " + now.pattern, house.positions(), size);
+        CHECK.due("empty at " + now.pattern, house.empty(), now.empty);
+        for (int i = 0; i < SOME && size > 0; i += 4) {
+            int p = RANDOM.nextInt(size);
+            int q = RANDOM.nextInt(size);
+            int letter = RANDOM.nextInt(36);
+            boolean same = house.is(p, 0) == now.first.get(p) && house.is(p, 1) == now.last.get(p)
+                    && house.follows(p, q) == now.follow[p].get(q)
+                    && house.has(p, letter) == now.positions.get(p).letters.get(letter);
+            CHECK.due("positions " + p + " and " + q + " at " + now.pattern, same, true);
+        }
+    }
+
+    private static void compareAllPositions(Relay relay) {
+        int size = now.positions.size();
         boolean same = true;
         for (int p = 0; p < size; p++) {
-            same &= house.is(p, 0) == due.first.get(p) && house.is(p, 1) == due.last.get(p);
+            same &= relay.now().is(p, 0) == now.first.get(p);
+            same &= relay.now().is(p, 1) == now.last.get(p);
             for (int q = 0; q < size; q++) {
-                same &= house.follows(p, q) == due.follow[p].get(q);
+                same &= relay.now().follows(p, q) == now.follow[p].get(q);
             }
             for (int letter = 0; letter < 36; letter++) {
-                same &= house.has(p, letter) == due.positions.get(p).letters.get(letter);
+                same &= relay.now().has(p, letter) == now.positions.get(p).letters.get(letter);
             }
         }
-        CHECK.due("layout at " + pattern, same, true);
+        CHECK.due("all positions at " + now.pattern, same, true);
     }
 
-    private static void compareText(PatternHouse house, Reference due, String pattern) {
+    private static String text() {
         StringBuilder text = new StringBuilder();
-        int length = RANDOM.nextInt(4) == 0 ? RANDOM.nextInt(200) : RANDOM.nextInt(12);
+        int length = RANDOM.nextInt(4) == 0 ? RANDOM.nextInt(201) : RANDOM.nextInt(12);
         for (int i = 0; i < length; i++) {
             text.append("aaabbbcd09".charAt(RANDOM.nextInt(10)));
         }
-        CHECK.text(house, text.toString());
-        CHECK.due("whole " + text + " at " + pattern, house.whole(), due.whole(text.toString()));
-        CHECK.due("finds in " + text + " at " + pattern, Check.finds(house), due.finds(text.toString()));
+        return text.toString();
     }
 
-    private static void compareAutomaton(PatternHouse house, Reference due, String pattern) {
-        int size = due.ways.size();
-        CHECK.due("states at " + pattern, house.states(), size);
+    private static void compareText(String text) {
+        String due = now.finds(text);
+        CHECK.text(house, text);
+        CHECK.due("whole " + text + " at " + now.pattern, house.whole(), now.whole(text));
+        int count = due.isEmpty() ? 0 : due.split(" ").length;
+        CHECK.due("finds in " + text + " at " + now.pattern, house.finds(), count);
+        for (int i = 0; i < count && i < SOME; i++) {
+            int one = RANDOM.nextInt(count);
+            CHECK.due("find " + one + " in " + text + " at " + now.pattern,
+                    house.find(one, false) + "-" + house.find(one, true), due.split(" ")[one]);
+        }
+        House fresh = CHECK.pattern(now.pattern);
+        CHECK.text(fresh, text);
+        CHECK.due("all finds in " + text + " at " + now.pattern, Check.finds(fresh), due);
+    }
+
+    private static void compareStates() {
+        int size = now.ways.size();
+        CHECK.due("states at " + now.pattern, house.states(), size);
+        CHECK.due("classes at " + now.pattern, house.classes(), now.classes());
+        for (int i = 0; i < SOME; i += 2) {
+            int s = RANDOM.nextInt(size);
+            int letter = RANDOM.nextInt(36);
+            boolean same = house.good(s) == now.goods.get(s) && house.next(s, letter) == now.ways.get(s)[letter];
+            CHECK.due("state " + s + " by " + letter + " at " + now.pattern, same, true);
+        }
+    }
+
+    private static void compareAllStates(Relay relay) {
+        int size = now.ways.size();
         boolean same = true;
         for (int s = 0; s < size; s++) {
-            same &= house.good(s) == due.goods.get(s);
+            same &= relay.now().good(s) == now.goods.get(s);
             for (int letter = 0; letter < 36; letter++) {
-                same &= house.next(s, letter) == due.ways.get(s)[letter];
+                same &= relay.now().next(s, letter) == now.ways.get(s)[letter];
             }
         }
-        CHECK.due("automaton at " + pattern, same, true);
-        CHECK.due("classes at " + pattern, house.classes(), due.classes());
+        CHECK.due("all states at " + now.pattern, same, true);
     }
 
-    private static void compareWords(PatternHouse house, Reference now, Reference kept, String pattern) {
+    private static void compareWords() {
         String due = Reference.differ(now, kept);
         int length = house.differ();
-        String got = length == -1 ? "same" : length == -2 ? "beyond" : Check.word(house, length);
-        CHECK.due("differ at " + pattern, got, due);
-        int behind = Math.max(0, length);
-        PatternHouse x = house;
-        CHECK.noIndex("letter behind the word", () -> x.letter(behind));
+        int some = Math.min(length, SOME);
+        String told = kept.pattern + " and " + now.pattern;
+        CHECK.due("differ of " + told, length, due.equals("same") ? -1 : due.equals("beyond") ? -2 : due.length());
+        CHECK.due("word of " + told, Check.word(house, some), due.substring(0, Math.max(0, some)));
+        House x = house;
+        CHECK.noIndex("letter behind the word of " + told, () -> x.letter(Math.max(0, length)));
+        House fresh = CHECK.pattern(kept.pattern);
+        fresh.keep();
+        CHECK.pattern(fresh, now.pattern);
+        CHECK.due("whole word of " + told, Check.word(fresh, fresh.differ()), due.substring(0, Math.max(0, length)));
     }
 
     private static String choices(int depth) {

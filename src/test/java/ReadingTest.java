@@ -18,7 +18,7 @@ public final class ReadingTest {
     }
 
     private static void newObject() {
-        PatternHouse x = new PatternHouse();
+        House x = new House();
         CHECK.due("place", x.place(), PatternHouse.NONE);
         CHECK.noState("positions", () -> x.positions());
         CHECK.noState("empty", () -> x.empty());
@@ -41,7 +41,7 @@ public final class ReadingTest {
         CHECK.noIndex("letter", () -> x.letter(0));
         CHECK.due("clear", x.clear(), 0);
         CHECK.due("type", x.type('a', 1), 1);
-        PatternHouse y = new PatternHouse();
+        House y = new House();
         CHECK.due("read of nothing", y.read(), 0);
         CHECK.due("its positions", y.positions(), 0);
         CHECK.due("its empty word", y.empty(), true);
@@ -50,7 +50,7 @@ public final class ReadingTest {
     }
 
     private static void typing() {
-        PatternHouse x = new PatternHouse();
+        House x = new House();
         for (int n : new int[] {0, -1, 9, 64, Integer.MIN_VALUE, Integer.MAX_VALUE}) {
             CHECK.noArgument("type with n " + n, () -> x.type(Check.pack("aaaaaaaa"), n));
         }
@@ -77,7 +77,7 @@ public final class ReadingTest {
     }
 
     private static void reading() {
-        PatternHouse x = CHECK.pattern("ab");
+        House x = CHECK.pattern("ab");
         fault(x, "abc(", 2, 4);
         CHECK.due("the one before stays", x.positions(), 2);
         CHECK.due("nothing is typed after a fault", x.type('a', 1), 1);
@@ -93,7 +93,7 @@ public final class ReadingTest {
         CHECK.due("read of nothing", x.read(), 0);
         CHECK.due("positions", x.positions(), 0);
         CHECK.due("finds", x.finds(), 0);
-        PatternHouse y = new PatternHouse();
+        House y = new House();
         fault(y, "a)", 1, 1);
         CHECK.noState("a fault makes no pattern", () -> y.positions());
         for (String good : new String[] {"", "()", "|", "||", "(|)", "a||b", "a**", "a+?*", "a{2}{1}+", "(a|b){2}?",
@@ -135,7 +135,7 @@ public final class ReadingTest {
 
     /** Whether the last character of a pattern is refused as one that can't be there, or is not. */
     private static void refused(String pattern, int at, boolean taken) {
-        PatternHouse x = new PatternHouse();
+        House x = new House();
         int fault = Check.readAll(x, pattern);
         CHECK.due(pattern + " is refused", fault == 1, !taken);
         if (!taken) {
@@ -144,7 +144,7 @@ public final class ReadingTest {
     }
 
     private static void endsTooSoon() {
-        PatternHouse x = new PatternHouse();
+        House x = new House();
         for (String pattern : new String[] {"(", "(a", "(a|", "((a)", "[", "[^", "[a", "[a-", "[a-b", "[^a", "a{",
             "a{2", "a{2,", "a{2,3", "a{9", "a{9,1", "((((((((", "ab(){"}) {
             fault(x, pattern, 2, pattern.length());
@@ -152,7 +152,7 @@ public final class ReadingTest {
     }
 
     private static void times() {
-        PatternHouse x = new PatternHouse();
+        House x = new House();
         for (int m = 0; m <= 9; m++) {
             times(x, "ab{" + m + "}", m >= 1 && m <= 5, 1 + m);
             for (int n = 0; n <= 9; n++) {
@@ -167,7 +167,7 @@ public final class ReadingTest {
         fault(x, "a{5}{5}{6}", 3, 7);
     }
 
-    private static void times(PatternHouse x, String pattern, boolean allowed, int positions) {
+    private static void times(House x, String pattern, boolean allowed, int positions) {
         if (allowed) {
             CHECK.pattern(x, pattern);
             CHECK.due("positions of " + pattern, x.positions(), positions);
@@ -177,7 +177,7 @@ public final class ReadingTest {
     }
 
     private static void tooManyPositions() {
-        PatternHouse x = new PatternHouse();
+        House x = new House();
         String sixty = "a".repeat(60);
         CHECK.pattern(x, sixty);
         CHECK.due("positions", x.positions(), 60);
@@ -217,7 +217,7 @@ public final class ReadingTest {
     }
 
     private static void brackets() {
-        PatternHouse x = new PatternHouse();
+        House x = new House();
         CHECK.pattern(x, "((((((((a))))))))");
         CHECK.pattern(x, "()()()()()()()()()((((((((a))))))))((((((((a))))))))");
         CHECK.pattern(x, "(((((((" + "(a)(b)|()" + ")))))))");
@@ -229,7 +229,7 @@ public final class ReadingTest {
     }
 
     private static void lettersWrongWayRound() {
-        PatternHouse x = new PatternHouse();
+        House x = new House();
         fault(x, "[b-a]", 6, 1);
         fault(x, "[b-a", 6, 1);
         fault(x, "[b-a*", 6, 1);
@@ -243,7 +243,7 @@ public final class ReadingTest {
     }
 
     private static void faultsInTheirOrder() {
-        PatternHouse x = new PatternHouse();
+        House x = new House();
         fault(x, "a)b{9}[b-a]", 1, 1);
         fault(x, "b{9})", 3, 1);
         fault(x, "[b-a]b{9}", 6, 1);
@@ -251,7 +251,7 @@ public final class ReadingTest {
     }
 
     private static void nothingIsLeftOfAFault() {
-        PatternHouse x = new PatternHouse();
+        House x = new House();
         fault(x, "a)", 1, 1);
         fault(x, "*", 1, 0);
         fault(x, "(((", 2, 3);
@@ -270,7 +270,7 @@ public final class ReadingTest {
         CHECK.due("nothing behind c", x.follows(0, 0), false);
     }
 
-    private static void fault(PatternHouse x, String pattern, int fault, int place) {
+    private static void fault(House x, String pattern, int fault, int place) {
         CHECK.due("fault of " + pattern, Check.readAll(x, pattern), fault);
         CHECK.due("place of the fault in " + pattern, x.place(), place);
     }

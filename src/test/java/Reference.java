@@ -47,7 +47,7 @@ final class Reference {
 
     static final String LETTERS = "abcdefghijklmnopqrstuvwxyz0123456789";
 
-    private final String pattern;
+    final String pattern;
     private int at;
     private int count;
     final Node tree;

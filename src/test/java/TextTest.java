@@ -14,7 +14,7 @@ public final class TextTest {
     }
 
     private static void feeding() {
-        PatternHouse x = new PatternHouse();
+        House x = new House();
         CHECK.due("feed before there is a pattern", x.feed(Check.pack("az09"), 4), 4);
         CHECK.pattern(x, "az09");
         CHECK.due("the text is there", x.whole(), true);
@@ -24,7 +24,7 @@ public final class TextTest {
         for (int c = 0; c < 256; c++) {
             boolean letter = c >= 'a' && c <= 'z' || c >= '0' && c <= '9';
             long w = Check.pack("a" + (char) c + "b");
-            PatternHouse y = new PatternHouse();
+            House y = new House();
             if (letter) {
                 CHECK.due("feed of character " + c, y.feed(w, 3), 3);
             } else {
@@ -40,7 +40,7 @@ public final class TextTest {
     }
 
     private static void room() {
-        PatternHouse x = CHECK.pattern("a*b");
+        House x = CHECK.pattern("a*b");
         CHECK.text(x, "a".repeat(197));
         CHECK.noState("four with room for three", () -> x.feed(Check.pack("aaab"), 4));
         CHECK.noArgument("a character that is no letter comes first", () -> x.feed(Check.pack("aa.b"), 4));
@@ -58,7 +58,7 @@ public final class TextTest {
     }
 
     private static void clearing() {
-        PatternHouse x = CHECK.pattern("a*");
+        House x = CHECK.pattern("a*");
         CHECK.due("clear of nothing", x.clear(), 0);
         CHECK.text(x, "aaab");
         CHECK.due("whole", x.whole(), false);
@@ -71,66 +71,54 @@ public final class TextTest {
     }
 
     private static void wholes() {
-        whole("", "", true);
-        whole("", "a", false);
-        whole("a", "", false);
-        whole("a*", "", true);
-        whole("a", "a", true);
-        whole("a", "aa", false);
-        whole("ab|cd", "cd", true);
-        whole("ab|cd", "ad", false);
-        whole("a(b|c)*d", "abcbcd", true);
-        whole("a(b|c)*d", "abcbc", false);
-        whole("(a|b)*abb", "ababb", true);
-        whole("a{2,4}", "a", false);
-        whole("a{2,4}", "aa", true);
-        whole("a{2,4}", "aaaa", true);
-        whole("a{2,4}", "aaaaa", false);
-        whole("(ab{2}){2}", "abbabb", true);
-        whole("a{0,3}b", "b", true);
-        whole(".[^a]", "aa", false);
-        whole(".[^a]", "a0", true);
-        whole("[^a-z0-9]*", "", true);
-        whole("[^a-z0-9]*", "a", false);
-        whole("(.*){5}{4}{3}", "abc012", true);
-        whole("[z-0]{2}", "z0", true);
-    }
-
-    private static void whole(String pattern, String text, boolean due) {
-        PatternHouse x = CHECK.pattern(pattern);
-        CHECK.text(x, text);
-        CHECK.due(text + " whole of " + pattern, x.whole(), due);
+        CHECK.word("", "", true);
+        CHECK.word("", "a", false);
+        CHECK.word("a", "", false);
+        CHECK.word("a*", "", true);
+        CHECK.word("a", "a", true);
+        CHECK.word("a", "aa", false);
+        CHECK.word("ab|cd", "cd", true);
+        CHECK.word("ab|cd", "ad", false);
+        CHECK.word("a(b|c)*d", "abcbcd", true);
+        CHECK.word("a(b|c)*d", "abcbc", false);
+        CHECK.word("(a|b)*abb", "ababb", true);
+        CHECK.word("a{2,4}", "a", false);
+        CHECK.word("a{2,4}", "aa", true);
+        CHECK.word("a{2,4}", "aaaa", true);
+        CHECK.word("a{2,4}", "aaaaa", false);
+        CHECK.word("(ab{2}){2}", "abbabb", true);
+        CHECK.word("a{0,3}b", "b", true);
+        CHECK.word(".[^a]", "aa", false);
+        CHECK.word(".[^a]", "a0", true);
+        CHECK.word("[^a-z0-9]*", "", true);
+        CHECK.word("[^a-z0-9]*", "a", false);
+        CHECK.word("(.*){5}{4}{3}", "abc012", true);
+        CHECK.word("[z-0]{2}", "z0", true);
     }
 
     private static void found() {
-        found("a", "", "");
-        found("a", "bab", "1-2");
-        found("a*", "baab", "1-3");
-        found("", "ab", "");
-        found("a|ab|abc", "abcabxaab", "0-3 3-5 6-7 7-9");
-        found("ab|bcd", "abcd", "0-2");
-        found("abc|b", "abab", "1-2 3-4");
-        found("aba", "ababa", "0-3");
-        found("aa", "aaaaa", "0-2 2-4");
-        found("a(.*b)?", "aaabc", "0-4");
-        found("(a|b)*abb", "ababbabbaabbab", "0-12");
-        found(".*", "xyz", "0-3");
-        found(".", "xyz", "0-1 1-2 2-3");
-        found("[0-9]+", "a12b3", "1-3 4-5");
-        found("(ab){2,3}", "abababababab", "0-6 6-12");
-        found("a{5}{5}", "a".repeat(60), "0-25 25-50");
-        found("ab*c|b", "abbb", "1-2 2-3 3-4");
-        found("[^a-z0-9]", "abc", "");
-    }
-
-    private static void found(String pattern, String text, String due) {
-        PatternHouse x = CHECK.pattern(pattern);
-        CHECK.text(x, text);
-        CHECK.due("finds of " + pattern + " in " + text, Check.finds(x), due);
+        CHECK.found("a", "", "");
+        CHECK.found("a", "bab", "1-2");
+        CHECK.found("a*", "baab", "1-3");
+        CHECK.found("", "ab", "");
+        CHECK.found("a|ab|abc", "abcabxaab", "0-3 3-5 6-7 7-9");
+        CHECK.found("ab|bcd", "abcd", "0-2");
+        CHECK.found("abc|b", "abab", "1-2 3-4");
+        CHECK.found("aba", "ababa", "0-3");
+        CHECK.found("aa", "aaaaa", "0-2 2-4");
+        CHECK.found("a(.*b)?", "aaabc", "0-4");
+        CHECK.found("(a|b)*abb", "ababbabbaabbab", "0-12");
+        CHECK.found(".*", "xyz", "0-3");
+        CHECK.found(".", "xyz", "0-1 1-2 2-3");
+        CHECK.found("[0-9]+", "a12b3", "1-3 4-5");
+        CHECK.found("(ab){2,3}", "abababababab", "0-6 6-12");
+        CHECK.found("a{5}{5}", "a".repeat(60), "0-25 25-50");
+        CHECK.found("ab*c|b", "abbb", "1-2 2-3 3-4");
+        CHECK.found("[^a-z0-9]", "abc", "");
     }
 
     private static void findsFollowWhatChanges() {
-        PatternHouse x = CHECK.pattern("aa*");
+        House x = CHECK.pattern("aa*");
         CHECK.text(x, "aaabaa");
         CHECK.due("finds", Check.finds(x), "0-3 4-6");
         x.feed(Check.pack("ac"), 2);
@@ -144,7 +132,7 @@ public final class TextTest {
     }
 
     private static void wrongFinds() {
-        PatternHouse x = CHECK.pattern("a");
+        House x = CHECK.pattern("a");
         CHECK.text(x, "aba");
         CHECK.due("find", x.find(1, false), 2);
         for (int i : new int[] {-1, 2, 200, Integer.MIN_VALUE, Integer.MAX_VALUE}) {
