@@ -169,6 +169,22 @@ final class Promises10To14 {
         count("a*", "a".repeat(200), 1);
         count("a", "ab".repeat(100), 100);
         count("", "a".repeat(200), 0);
+        House x = CHECK.pattern("a");
+        CHECK.text(x, "ab");
+        CHECK.due("finds", x.finds(), 1);
+        x.feed(Check.pack("aa"), 2);
+        CHECK.due("finds with two letters more", x.finds(), 3);
+        CHECK.noState("no room", () -> {
+            for (int i = 0; i < 25; i++) {
+                x.feed(Check.pack("bbbbbbbb"), 8);
+            }
+            return 0;
+        });
+        CHECK.due("finds with a text that is full but for four", x.finds(), 3);
+        CHECK.pattern(x, "b+");
+        CHECK.due("finds of another pattern", x.finds(), 2);
+        x.clear();
+        CHECK.due("finds of no text", x.finds(), 0);
     }
 
     private static void count(String pattern, String text, int due) {

@@ -195,6 +195,10 @@ final class Promises15To18 {
         classes("", 2);
         classes("a*", 2);
         classes("a", 3);
+        classes("ab", 4);
+        classes("ba", 4);
+        classes("abc", 5);
+        classes("a{5}{5}", 27);
         classes("ab|cb", 4);
         classes("ab|c9", 5);
         // told apart by the 26th letter alone
@@ -217,10 +221,15 @@ final class Promises15To18 {
         classes("c{5}{2}cccc" + CORE, PatternHouse.NONE);
         classes(STATES_301, PatternHouse.NONE);
         classes(STATES_513, PatternHouse.NONE);
-        House x = CHECK.pattern(STATES_301);
-        CHECK.due("classes", x.classes(), PatternHouse.NONE);
-        CHECK.pattern(x, STATES_300);
-        CHECK.due("classes of the next pattern", x.classes(), 299);
+        House x = new House();
+        for (int round = 0; round < 4; round++) {
+            CHECK.pattern(x, STATES_301);
+            CHECK.due("classes", x.classes(), PatternHouse.NONE);
+            CHECK.pattern(x, STATES_300);
+            CHECK.due("classes of the next pattern", x.classes(), 299);
+            CHECK.pattern(x, "ab");
+            CHECK.due("classes of the next but one", x.classes(), 4);
+        }
     }
 
     private static void promise18Just300WithWaysBeyond() {
