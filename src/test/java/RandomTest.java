@@ -4,6 +4,7 @@ import java.util.Random;
 public final class RandomTest {
     private static final Check CHECK = new Check();
     private static final Random RANDOM = new Random(20261115);
+    private static final Chance CHANCE = new Chance(RANDOM);
     /** What a round asks of the object that goes on from round to round stays below this. */
     private static final int CALLS_OF_A_ROUND = 170;
     private static final int SOME = 20;
@@ -20,10 +21,9 @@ public final class RandomTest {
             if (house.callsLeft() < CALLS_OF_A_ROUND) {
                 beginAnew();
             }
-            String pattern = RANDOM.nextInt(3) == 0 ? noise() : spoil(choices(RANDOM.nextInt(5)));
-            compareReading(pattern.substring(0, Math.min(200, pattern.length())));
+            compareReading(CHANCE.pattern());
             if (now != null) {
-                compareRest(text());
+                compareRest(CHANCE.text());
             }
         }
         System.out.println(good + " patterns, " + faults + " faults");
@@ -97,15 +97,6 @@ public final class RandomTest {
         CHECK.due("all positions at " + now.pattern, same, true);
     }
 
-    private static String text() {
-        StringBuilder text = new StringBuilder();
-        int length = RANDOM.nextInt(4) == 0 ? RANDOM.nextInt(201) : RANDOM.nextInt(12);
-        for (int i = 0; i < length; i++) {
-            text.append("aaabbbcd09".charAt(RANDOM.nextInt(10)));
-        }
-        return text.toString();
-    }
-
     private static void compareText(String text) {
         String due = now.finds(text);
         CHECK.text(house, text);
@@ -159,67 +150,5 @@ public final class RandomTest {
         fresh.keep();
         CHECK.pattern(fresh, now.pattern);
         CHECK.due("whole word of " + told, Check.word(fresh, fresh.differ()), due.substring(0, Math.max(0, length)));
-    }
-
-    private static String choices(int depth) {
-        StringBuilder all = new StringBuilder(row(depth));
-        while (RANDOM.nextInt(3) == 0) {
-            all.append('|').append(row(depth));
-        }
-        return all.toString();
-    }
-
-    private static String row(int depth) {
-        StringBuilder all = new StringBuilder();
-        int parts = RANDOM.nextInt(4) + (RANDOM.nextInt(8) == 0 ? 10 : 0);
-        for (int i = 0; i < parts; i++) {
-            all.append(atom(depth));
-            while (RANDOM.nextInt(3) == 0) {
-                all.append(suffix());
-            }
-        }
-        return all.toString();
-    }
-
-    private static String atom(int depth) {
-        int kind = RANDOM.nextInt(10);
-        if (kind < 4 && depth > 0) {
-            return "(" + choices(depth - 1) + ")";
-        }
-        if (kind == 9) {
-            return ".";
-        }
-        if (kind == 8) {
-            return RANDOM.nextBoolean() ? "[a-c]" : RANDOM.nextBoolean() ? "[^b]" : "[^a-y1-90d-x]";
-        }
-        return String.valueOf("aaabbc09".charAt(RANDOM.nextInt(8)));
-    }
-
-    private static String suffix() {
-        int kind = RANDOM.nextInt(5);
-        if (kind < 3) {
-            return "*+?".substring(kind, kind + 1);
-        }
-        int m = RANDOM.nextInt(4);
-        int n = Math.max(1, m + RANDOM.nextInt(3));
-        return kind == 3 && m > 0 ? "{" + m + "}" : "{" + m + "," + n + "}";
-    }
-
-    private static String spoil(String pattern) {
-        if (RANDOM.nextInt(3) != 0 || pattern.isEmpty()) {
-            return pattern;
-        }
-        int at = RANDOM.nextInt(pattern.length());
-        String some = RANDOM.nextBoolean() ? "" : noise().substring(0, 1);
-        return pattern.substring(0, at) + some + pattern.substring(at + RANDOM.nextInt(2));
-    }
-
-    private static String noise() {
-        String some = "ab09zz..[]]^-((()))||*+?{{}},A \0\u00ff";
-        StringBuilder all = new StringBuilder();
-        for (int i = RANDOM.nextInt(8); i >= 0; i--) {
-            all.append(some.charAt(RANDOM.nextInt(some.length())));
-        }
-        return all.toString();
     }
 }

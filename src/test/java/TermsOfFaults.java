@@ -28,6 +28,7 @@ final class TermsOfFaults {
         aGreaterLetterBefore();
         aGreaterLetterWhenTheSecondIsRead();
         timesBeforePositions();
+        timesOfAPartWithoutPositions();
         aPartWithoutPositions();
     }
 
@@ -116,7 +117,6 @@ final class TermsOfFaults {
         CHECK.fault("a{0}", 3, 1);
         CHECK.fault("a{0,0}", 3, 1);
         CHECK.fault("a{1,0}", 3, 1);
-        CHECK.fault("(){0}", 3, 2);
         CHECK.pattern("a{1}");
         CHECK.pattern("a{0,1}");
     }
@@ -235,6 +235,17 @@ final class TermsOfFaults {
         CHECK.fault(SIXTY + "{6}", 3, 60);
         CHECK.fault(SIXTY + "{3,2}", 3, 60);
         CHECK.fault(SIXTY + "{0,9}", 3, 60);
+    }
+
+    /** Any number of times, but each time with an n that may be there: fault 3 is no matter of positions. */
+    private static void timesOfAPartWithoutPositions() {
+        CHECK.says("Terms", FAULT_3);
+        for (String times : new String[] {"{0}", "{0,0}", "{6}", "{9}", "{0,6}", "{6,6}", "{2,1}", "{5,4}", "{9,0}"}) {
+            CHECK.fault("()" + times, 3, 2);
+            CHECK.fault("(|)" + times, 3, 3);
+            CHECK.fault("(()*|){5}" + times, 3, 9);
+            CHECK.fault(SIXTY + "()" + times, 3, 62);
+        }
     }
 
     private static void aPartWithoutPositions() {
